@@ -630,6 +630,11 @@ public final class AlertRowsPromises {
         y.tick(1);
         due("13: none answered, upper", 0, () -> y.share(0, 0));
         due("13: none answered, lower", 1, () -> y.share(0, 1));
+        y.alarm(0, false);
+        y.answer(1, 6, -1);
+        y.tick(1);
+        due("13: in lowest terms already, upper", 1, () -> y.share(0, 0));
+        due("13: in lowest terms already, lower", 14, () -> y.share(0, 1));
     }
 
     private static void promise14() {

@@ -12,7 +12,9 @@ import java.util.Set;
 // alone: it walks second by second and counts everything anew at each question.
 public final class AlertRowsModel {
     private static final int RUNS = 3000;
+    // What an object answers behind its 512th call is free, so no run goes further.
     private static final int CALLS = 512;
+    private static final int QUESTIONS = 112;
 
     private static final class Refusal extends RuntimeException {
         private static final long serialVersionUID = 1L;
@@ -461,32 +463,24 @@ public final class AlertRowsModel {
         return false;
     }
 
-    /** At the end of a run, all that can be asked. */
-    private boolean allAlike(AlertRows x, int run, Map<String, Integer> seen) {
-        boolean good = true;
-        for (int what = 0; what < 5; what++) {
-            good &= alike(x, run, CALLS, new int[] {13, what, 0, 0}, seen);
+    /** One of all the questions that can be asked: the last calls of a run are such ones. */
+    private int[] question(Random random) {
+        int bell = random.nextInt(Math.max(1, bells.size()));
+        switch (random.nextInt(8)) {
+            case 0:
+                return new int[] {13, random.nextInt(5), 0, 0};
+            case 1: case 2: case 3:
+                return new int[] {8, bell, random.nextInt(7), 0};
+            case 4:
+                int comers = bell < bells.size() ? bells.get(bell).coming().size() : 0;
+                return new int[] {9, bell, random.nextInt(comers + 1), 0};
+            case 5:
+                return new int[] {10, bell, random.nextInt(Math.max(1, men.size())), 0};
+            case 6:
+                return new int[] {11, random.nextInt(Math.max(1, crews.size())), random.nextInt(2), 0};
+            default:
+                return new int[] {12, random.nextInt(random.nextBoolean() ? 3 : 61), 0, 0};
         }
-        for (int bell = 0; bell < bells.size(); bell++) {
-            for (int what = 0; what < 7; what++) {
-                good &= alike(x, run, CALLS, new int[] {8, bell, what, 0}, seen);
-            }
-            int comers = bells.get(bell).coming().size();
-            for (int i = 0; i <= comers; i++) {
-                good &= alike(x, run, CALLS, new int[] {9, bell, i, 0}, seen);
-            }
-            for (int man = 0; man < men.size(); man++) {
-                good &= alike(x, run, CALLS, new int[] {10, bell, man, 0}, seen);
-            }
-        }
-        for (int group = 0; group < crews.size(); group++) {
-            good &= alike(x, run, CALLS, new int[] {11, group, 0, 0}, seen);
-            good &= alike(x, run, CALLS, new int[] {11, group, 1, 0}, seen);
-        }
-        for (int i = 0; i <= 60; i++) {
-            good &= alike(x, run, CALLS, new int[] {12, i, 0, 0}, seen);
-        }
-        return good;
     }
 
     public static void main(String[] args) {
@@ -500,9 +494,9 @@ public final class AlertRowsModel {
             AlertRows x = new AlertRows();
             boolean good = true;
             for (int place = 0; place < CALLS && good; place++) {
-                good = model.alike(x, run, place, model.nextCall(random, temper), seen);
+                int[] call = place < CALLS - QUESTIONS ? model.nextCall(random, temper) : model.question(random);
+                good = model.alike(x, run, place, call, seen);
             }
-            good = good && model.allAlike(x, run, seen);
             wrong += good ? 0 : 1;
             raised += model.seconds;
         }

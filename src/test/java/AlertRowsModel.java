@@ -377,6 +377,7 @@ public final class AlertRowsModel {
         final int[] times;
         final int longTicks;
         final int least;
+        final boolean manyAlarms;
 
         Temper(Random random) {
             groups = 1 + random.nextInt(random.nextBoolean() ? 3 : 14);
@@ -385,6 +386,7 @@ public final class AlertRowsModel {
             times = all[random.nextInt(all.length)];
             longTicks = random.nextInt(60) == 0 ? 2 : 40;
             least = 1 + random.nextInt(random.nextBoolean() ? 2 : 20);
+            manyAlarms = random.nextInt(5) == 0;
         }
     }
 
@@ -398,6 +400,10 @@ public final class AlertRowsModel {
         }
         if (men.size() < temper.men && random.nextInt(3) == 0) {
             return new int[] {2, pick(random, crews.size()), 0, 0};
+        }
+        // Without runs of many alarms the room for 60 would hardly ever be full.
+        if (temper.manyAlarms && random.nextInt(6) == 0) {
+            return new int[] {5, pick(random, crews.size()), random.nextInt(4) - 2, 0};
         }
         int alarm = pickAlarm(random, bells.size());
         switch (random.nextInt(20)) {
